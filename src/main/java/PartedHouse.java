@@ -47,8 +47,8 @@ public final class PartedHouse {
         weights = new int[WEIGHTS];
         Arrays.fill(weights, 1);
         told = new int[MODULES * MODULES];
-        prices = new Prices();
-        cutter = new Cutter();
+        prices = new Prices(text, now);
+        cutter = new Cutter(text, prices);
         ringSearch = new RingSearch();
         lawBook = new Laws();
         arrivals = new Arrivals();
@@ -149,7 +149,7 @@ public final class PartedHouse {
     }
 
     public long price() {
-        prices.prepare(text, now, weights);
+        prices.prepare(weights);
         return prices.of(now.rooms);
     }
 
@@ -160,8 +160,8 @@ public final class PartedHouse {
         if (text.modules > CUT_MODULES) {
             return BIG;
         }
-        prices.prepare(text, now, weights);
-        return cutter.search(text, prices, told, r, most) ? cutter.leastPrice : NOT;
+        prices.prepare(weights);
+        return cutter.search(told, r, most) ? cutter.leastPrice : NOT;
     }
 
     public int put(int module) {
@@ -694,10 +694,10 @@ public final class PartedHouse {
 
     /** Which homes acts wrote together, and how many acts did; only sets that came are kept. */
     private static final class HomeSets {
-        private static final int FIRST_ROOM = 16;
+        private static final int FIRST_LENGTH = 16;
 
-        int[] masks = new int[FIRST_ROOM];
-        int[] acts = new int[FIRST_ROOM];
+        int[] masks = new int[FIRST_LENGTH];
+        int[] acts = new int[FIRST_LENGTH];
         int size;
 
         void add(int mask) {
@@ -729,11 +729,11 @@ public final class PartedHouse {
 
     /** All letters by their numbers, and the numbers of those that wait, in their order. */
     private static final class Letters {
-        private static final int FIRST_ROOM = 32;
+        private static final int FIRST_LENGTH = 32;
 
         /** Cell, room from and room to, in one number: a letter's address never changes. */
-        int[] addresses = new int[FIRST_ROOM];
-        int[] says = new int[FIRST_ROOM];
+        int[] addresses = new int[FIRST_LENGTH];
+        int[] says = new int[FIRST_LENGTH];
         final int[] waiting = new int[MOST_WAITING];
         int sent;
         int waits;
@@ -828,23 +828,28 @@ public final class PartedHouse {
     /** What it costs to have modules in unlike rooms, by the counts and weights at hand. */
     private static final class Prices {
         /** Of each two modules, told once for both directions. */
-        final long[] pairs = new long[MODULES * MODULES];
-        HomeSets homeSets;
-        int modules;
-        long wholeWeight;
+        private final long[] pairs = new long[MODULES * MODULES];
+        private final Text text;
+        private final int[] counts;
+        private final HomeSets homeSets;
+        private long wholeWeight;
 
-        void prepare(Text text, Houses houses, int[] weights) {
+        Prices(Text text, Houses houses) {
+            this.text = text;
+            counts = houses.counts;
             homeSets = houses.homeSets;
-            modules = text.modules;
+        }
+
+        void prepare(int[] weights) {
             wholeWeight = weights[WHOLE];
             Arrays.fill(pairs, 0L);
-            for (int m = 0; m < modules; m++) {
-                for (int n = 0; n < modules; n++) {
-                    addToPair(m, n, (long) houses.counts[tiePlace(CALLS, m, n)] * weights[CALLS]);
+            for (int m = 0; m < text.modules; m++) {
+                for (int n = 0; n < text.modules; n++) {
+                    addToPair(m, n, (long) counts[tiePlace(CALLS, m, n)] * weights[CALLS]);
                 }
                 for (int t = 0; t < text.tables; t++) {
-                    long reads = (long) houses.counts[tiePlace(READS, m, t)] * weights[READS];
-                    long writes = (long) houses.counts[tiePlace(WRITES, m, t)] * weights[WRITES];
+                    long reads = (long) counts[tiePlace(READS, m, t)] * weights[READS];
+                    long writes = (long) counts[tiePlace(WRITES, m, t)] * weights[WRITES];
                     addToPair(m, text.homes[t], reads + writes);
                 }
             }
@@ -859,15 +864,12 @@ public final class PartedHouse {
 
         long of(int[] rooms) {
             long sum = 0;
-            for (int m = 1; m < modules; m++) {
+            for (int m = 1; m < text.modules; m++) {
                 for (int n = 0; n < m; n++) {
                     if (rooms[m] != rooms[n]) {
                         sum += pairs[m * MODULES + n];
                     }
                 }
-            }
-            if (homeSets == null) {
-                return sum;
             }
             for (int i = 0; i < homeSets.size; i++) {
                 int above = Math.max(0, roomsOf(homeSets.masks[i], rooms) - 1);
@@ -878,7 +880,7 @@ public final class PartedHouse {
 
         private int roomsOf(int homes, int[] rooms) {
             int seen = 0;
-            for (int m = 0; m < modules; m++) {
+            for (int m = 0; m < text.modules; m++) {
                 if ((homes >> m & 1) != 0) {
                     seen |= 1 << rooms[m];
                 }
@@ -894,9 +896,6 @@ public final class PartedHouse {
                     sum += pairs[module * MODULES + n];
                 }
             }
-            if (homeSets == null) {
-                return sum;
-            }
             int ahead = (1 << module) - 1;
             for (int i = 0; i < homeSets.size; i++) {
                 int homes = homeSets.masks[i];
@@ -911,17 +910,17 @@ public final class PartedHouse {
 
     /**
      * The cheapest rooms. Rooms have the same bounds, so the first of the ways that are alike but for
-     * the rooms' numbers opens its rooms in their order: only such ways are tried, in the order of the ties.
+     * the rooms' numbers opens its rooms in their order: only such ways are tried, the first ones first.
      */
     private static final class Cutter {
+        private final Text text;
+        private final Prices prices;
         private final int[] members = new int[ROOMS];
         private final int[] loads = new int[ROOMS];
         private final int[] rooms = new int[CUT_MODULES];
         private final int[] foundRooms = new int[CUT_MODULES];
         private final int[] togetherAhead = new int[CUT_MODULES];
         private final int[] apartAhead = new int[CUT_MODULES];
-        private Text text;
-        private Prices prices;
         private int roomCount;
         private int most;
         private boolean found;
@@ -930,9 +929,12 @@ public final class PartedHouse {
         int keptModules;
         long leastPrice;
 
-        boolean search(Text givenText, Prices givenPrices, int[] told, int r, int mostLoad) {
-            text = givenText;
-            prices = givenPrices;
+        Cutter(Text text, Prices prices) {
+            this.text = text;
+            this.prices = prices;
+        }
+
+        boolean search(int[] told, int r, int mostLoad) {
             roomCount = Math.min(r, ROOMS);
             most = mostLoad;
             found = false;

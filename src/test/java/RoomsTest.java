@@ -7,6 +7,7 @@ public final class RoomsTest {
         weights();
         telling();
         prices();
+        manySetsOfHomes();
         cutRefusals();
         cutTies();
         cutBounds();
@@ -87,6 +88,42 @@ public final class RoomsTest {
         y.run(0, 1);
         y.room(0, 3);
         check.due("writes in one room alone, from another", y.price(), 1);
+    }
+
+    /** Each of the 31 sets of five homes is written by one act, so that sets are many. */
+    private static void manySetsOfHomes() {
+        PartedHouse x = new PartedHouse();
+        for (int m = 0; m < 5; m++) {
+            x.module(1);
+            x.table(m);
+            x.room(m, m);
+        }
+        for (int what = 0; what < 3; what++) {
+            x.weight(what, 0);
+        }
+        x.image(0);
+        for (int set = 1; set < 32; set++) {
+            int routine = x.routine(0);
+            for (int m = 0; m < 5; m++) {
+                if ((set >> m & 1) != 0) {
+                    Check.lines(x, routine, Check.WRITE, m, 0);
+                }
+            }
+            x.run(routine, set);
+        }
+        check.due("all sets, each alone", x.price(), 5 * 16 - 31);
+        x.run(20, 1);
+        check.due("a set again (of 0, 2 and 4)", x.price(), 5 * 16 - 31 + 2);
+        x.image(1);
+        x.restore(0);
+        check.due("none", x.price(), 0);
+        x.restore(1);
+        check.due("all of them restored", x.price(), 5 * 16 - 31 + 2);
+        check.due("four of five in one room", x.cut(2, 4), 15);
+        check.due("one room", x.cut(2, 5), 0);
+        x.restore(0);
+        x.run(20, 1);
+        check.due("one alone, in a greater row", x.price(), 2);
     }
 
     private static void cutRefusals() {
