@@ -125,7 +125,7 @@ public final class ShapeTest {
     private static void longMethods(String bare) {
         String[] rows = bare.split("\n");
         for (int i = 0; i < rows.length; i++) {
-            Matcher head = Pattern.compile("^( +)[\\w\\[\\] ]+ (\\w+)\\([^)]*\\) \\{$").matcher(rows[i]);
+            Matcher head = Pattern.compile("^( +)(?! )(?:[\\w\\[\\]]+ )*(\\w+)\\([^)]*\\) \\{$").matcher(rows[i]);
             if (!head.find() || rows[i].contains(" else ") || rows[i].trim().startsWith("for ")) {
                 continue;
             }
