@@ -5,6 +5,7 @@ public final class LawsTest {
     public static void main(String[] args) {
         makingLaws();
         makingTerms();
+        lawsAreApart();
         holding();
         sumsAreLong();
         ordersOfLetters();
@@ -49,6 +50,21 @@ public final class LawsTest {
         check.due("a bad seventh", x.term(0, 0, 0, 10), Check.BAD);
         x.law(0);
         check.due("another law's first", x.term(1, 0, 0, 1), 1);
+    }
+
+    private static void lawsAreApart() {
+        PartedHouse x = Check.house(1);
+        Check.lines(x, 0, Check.WRITE, 0, 0);
+        for (int law = 0; law < 10; law++) {
+            x.law(6);
+            for (int i = 0; i < 6; i++) {
+                x.term(law, 0, 0, law % 2 == 0 ? 1 : -9);
+            }
+        }
+        x.run(0, 1);
+        for (int law = 0; law < 10; law++) {
+            check.due("six terms of law " + law, x.holds(law, 0), law % 2 == 0 ? 1 : 0);
+        }
     }
 
     private static void holding() {
