@@ -165,6 +165,8 @@ public final class NewHouseTest {
         check.due("the 40th again", x.act(7, 3), 3);
         check.due("it writes its own", x.cell(1, 7, 1), 3);
         check.due("its number", x.letter(40, 2), 3);
+        check.due("one that came, while 40 wait", x.deliver(11), 0);
+        check.due("it does not wait, while 40 do", x.letter(11, 5), 0);
         check.due("BIG", x.orders(), Check.BIG);
         x.settle();
         Check.lines(x, 0, Check.WRITE, 7, 7);

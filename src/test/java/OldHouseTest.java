@@ -10,6 +10,7 @@ public final class OldHouseTest {
         mostOpen();
         failedLeavesNothing();
         cells();
+        allCells();
         counts();
         check.end();
     }
@@ -146,6 +147,28 @@ public final class OldHouseTest {
         check.due("cell(0, -1, 0)", x.cell(0, -1, 0), Check.FAILED);
         check.due("cell(0, 0, 8)", x.cell(0, 0, 8), Check.FAILED);
         check.due("cell(0, 0, -1)", x.cell(0, 0, -1), Check.FAILED);
+    }
+
+    /** One act writes all 128 cells there are, and another one again. */
+    private static void allCells() {
+        PartedHouse x = new PartedHouse();
+        x.module(1);
+        x.routine(0);
+        for (int r = 1; r <= 8; r++) {
+            x.routine(0);
+            x.table(0);
+            x.table(0);
+            Check.lines(x, 0, Check.CALL, r, 0);
+            for (int c = 0; c < 16; c++) {
+                Check.lines(x, r, Check.WRITE, 2 * r - 2 + c / 8, c % 8);
+            }
+        }
+        check.due("all cells", x.run(0, 3), 3);
+        check.due("they differ", x.differ(), 128);
+        check.due("all cells again", x.run(0, 4), 4);
+        check.due("the last one", x.cell(0, 15, 7), 4);
+        check.due("all cells beside", x.beside(0, 5), 1);
+        check.due("none differs", x.differ(), 0);
     }
 
     private static void counts() {
