@@ -431,7 +431,8 @@ public final class NewHouseEdgesTest {
     }
 
     private static void factsOfALetter() {
-        check.sentence("0 TABLE, 1 cell, 2 what it says, 3 the ROOM from which, 4 that to which it goes, 5 whether it waits");
+        check.sentence("0 TABLE, 1 cell, 2 what it says, 3 the ROOM from which, 4 that to which it goes (..), "
+            + "5 whether it waits");
         PartedHouse x = new PartedHouse();
         x.module(1);
         x.module(1);

@@ -94,7 +94,7 @@ public final class RefusedTest {
         return x;
     }
 
-    /** One part of all that can be read off an object; the last calls of some parts change it, which is why there are parts. */
+    /** One part of all that can be read off an object: parts, since some of the calls that read it change it. */
     private static List<Long> read(PartedHouse x, int part) {
         List<Long> all = new ArrayList<>();
         if (part == 0) {
